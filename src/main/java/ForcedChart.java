@@ -42,7 +42,7 @@ public final class ForcedChart {
         transitions = new Transitions();
         orders = new Orders();
         actions = new Actions();
-        trial = new Trial(steps, expressions, transitions, orders);
+        trial = new Trial();
         times = new int[MOST_STEPS];
     }
 
@@ -126,7 +126,7 @@ public final class ForcedChart {
         int given = inputs & ALL_LINES;
         trial.begin(situation, times, dt);
         trial.sense(this.inputs, given);
-        boolean ends = settling ? trial.settle() : trial.evolveOnce();
+        boolean ends = comesToAnEnd();
         lead = trial.lead;
         period = trial.period;
         if (!ends) {
@@ -186,6 +186,44 @@ public final class ForcedChart {
         cleared = 0;
         lead = 0;
         period = 0;
+    }
+
+    /** Makes the evolutions of the trial and answers whether they end. */
+    private boolean comesToAnEnd() {
+        if (!settling) {
+            evolve();
+            return true;
+        }
+        for (int number = 0; number <= Trial.MOST_STATES; number++) {
+            if (!evolve()) {
+                return true;
+            }
+            trial.endEdges();
+            if (trial.findsCycle()) {
+                return false;
+            }
+        }
+        return false;
+    }
+
+    /** Makes the next evolution of the trial and answers whether it was not idle; an idle one changes nothing. */
+    private boolean evolve() {
+        int due = transitions.dueIn(trial.situation, expressions.trueIn(trial));
+        int clearedNow = 0;
+        int next = 0;
+        for (int part = 0; part < PARTS; part++) {
+            int own = trial.situation & steps.inPart[part];
+            int order = orders.rulingOver(part, next);
+            if (order != Orders.NONE) {
+                next |= orders.forcedSteps(order, own);
+            } else {
+                int dueHere = due & transitions.inPart[part];
+                int clearedHere = settling ? dueHere : transitions.withoutRivals(dueHere);
+                next |= own & ~transitions.preceding(clearedHere) | transitions.succeeding(clearedHere);
+                clearedNow |= clearedHere;
+            }
+        }
+        return trial.moveTo(next, clearedNow);
     }
 
     private void keepTrial(int dt) {
@@ -555,14 +593,14 @@ public final class ForcedChart {
         }
 
         private boolean isOn(int action, boolean is, boolean was, int time) {
-            boolean isStored = isIn(action, storedSet);
+            boolean kept = isIn(action, storedSet);
             int duration = durations[action];
             switch (qualifiers[action]) {
                 case WHILE_ACTIVE:
                     return is;
                 case SET:
                 case DELAYED_THEN_SET:
-                    return isStored;
+                    return kept;
                 case LIMITED:
                     return is && time < duration;
                 case DELAYED:
@@ -572,9 +610,9 @@ public final class ForcedChart {
                 case AT_END:
                     return was && !is;
                 case SET_THEN_DELAYED:
-                    return isStored && ages[action] >= duration;
+                    return kept && ages[action] >= duration;
                 case SET_THEN_LIMITED:
-                    return isStored && ages[action] < duration;
+                    return kept && ages[action] < duration;
                 default:
                     return false;
             }
@@ -589,10 +627,6 @@ public final class ForcedChart {
          */
         private static final int MOST_STATES = 511;
 
-        private final Steps steps;
-        private final Expressions expressions;
-        private final Transitions transitions;
-        private final Orders orders;
         private final int[] timesAtBegin = new int[MOST_STEPS];
         private final int[] states = new int[MOST_STATES + 2];
         private int inputs;
@@ -604,13 +638,6 @@ public final class ForcedChart {
         private int made;
         private int lead;
         private int period;
-
-        Trial(Steps steps, Expressions expressions, Transitions transitions, Orders orders) {
-            this.steps = steps;
-            this.expressions = expressions;
-            this.transitions = transitions;
-            this.orders = orders;
-        }
 
         void begin(int oldSituation, int[] oldTimes, int dt) {
             situation = oldSituation;
@@ -637,67 +664,36 @@ public final class ForcedChart {
             return isIn(step, timed) ? timesAtBegin[step] : 0;
         }
 
-        boolean evolveOnce() {
-            if (evolve(false)) {
-                made = 1;
-            }
-            return true;
+        void endEdges() {
+            rising = 0;
+            falling = 0;
         }
 
-        /** Answers whether the evolutions come to an end. */
-        boolean settle() {
-            for (int number = 1; number <= MOST_STATES + 1; number++) {
-                if (!evolve(true)) {
-                    return true;
-                }
-                made = number;
-                rising = 0;
-                falling = 0;
-                if (findsCycle(number)) {
-                    return false;
-                }
+        boolean moveTo(int next, int clearedNow) {
+            if (clearedNow == 0 && next == situation) {
+                return false;
             }
-            return false;
-        }
-
-        /** Makes the next evolution and answers whether it was not idle; an idle one changes nothing. */
-        private boolean evolve(boolean clearsAll) {
-            int due = transitions.dueIn(situation, expressions.trueIn(this));
-            int clearedNow = 0;
-            int next = 0;
-            for (int part = 0; part < PARTS; part++) {
-                int own = situation & steps.inPart[part];
-                int order = orders.rulingOver(part, next);
-                if (order != Orders.NONE) {
-                    next |= orders.forcedSteps(order, own);
-                } else {
-                    int dueHere = due & transitions.inPart[part];
-                    int clearedHere = clearsAll ? dueHere : transitions.withoutRivals(dueHere);
-                    next |= own & ~transitions.preceding(clearedHere) | transitions.succeeding(clearedHere);
-                    clearedNow |= clearedHere;
-                }
-            }
-            boolean moved = clearedNow != 0 || next != situation;
             situation = next;
             timed &= next;
             cleared |= clearedNow;
-            return moved;
+            made++;
+            return true;
         }
 
         /**
          * From the first evolution on nothing but situation and times decides what follows, so the first state that
          * comes again begins the cycle.
          */
-        private boolean findsCycle(int number) {
+        boolean findsCycle() {
             int state = situation | timed << MOST_STEPS;
-            for (int earlier = 1; earlier < number; earlier++) {
+            for (int earlier = 1; earlier < made; earlier++) {
                 if (states[earlier] == state) {
                     lead = earlier;
-                    period = number - earlier;
+                    period = made - earlier;
                     return true;
                 }
             }
-            states[number] = state;
+            states[made] = state;
             return false;
         }
     }

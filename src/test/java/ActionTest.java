@@ -1,6 +1,10 @@
 /** Promises 6, 14 and 15: what each qualifier does. */
 public final class ActionTest {
     private static final int DURATION = 10;
+    private static final int STAY = 0;
+    private static final int REST = 1;
+    private static final int WORK = 2;
+    private static final int RESET = 4;
 
     public static void main(String[] args) {
         whileActive();
@@ -16,6 +20,7 @@ public final class ActionTest {
         durationOfNothing();
         sharedVariables();
         resetByItsOwnStep();
+        manyAtOnce();
         storedNumbers();
         outputsLast();
         atRestBetween();
@@ -23,8 +28,8 @@ public final class ActionTest {
     }
 
     /**
-     * Step 0 is at rest; input 0 leads on to step 1, input 1 from there to step 2, input 2 back to 0. The action under
-     * test is number 0, of step 1 and variable 4; action 1 resets the variable in step 2.
+     * Step 0 is at rest, step 1 works, step 2 resets; the input of a step's number leads there from the others. The
+     * action under test is number 0, of step 1 and variable 4; action 1 resets that variable in step 2.
      */
     private static ForcedChart chart(int qualifier, int duration) {
         ForcedChart c = new ForcedChart();
@@ -33,7 +38,8 @@ public final class ActionTest {
             c.expression(0, i, 0);
         }
         for (int i = 0; i < 3; i++) {
-            c.transition(1 << i, 1 << (i + 1) % 3, i);
+            c.transition(1 << i, 1 << (i + 1) % 3, (i + 1) % 3);
+            c.transition(1 << i, 1 << (i + 2) % 3, (i + 2) % 3);
         }
         c.action(1, qualifier, 4, duration);
         c.action(2, 1, 4, 0);
@@ -50,186 +56,138 @@ public final class ActionTest {
 
     private static void whileActive() {
         ForcedChart c = chart(0, 0);
-        scan(c, 0, 5, false, false);
-        scan(c, 1, 5, true, false);
-        scan(c, 0, 50, true, false);
-        scan(c, 2, 0, false, false);
-        scan(c, 4, 0, false, false);
+        scan(c, STAY, 5, false, false);
+        scan(c, WORK, 5, true, false);
+        scan(c, STAY, 50, true, false);
+        scan(c, REST, 0, false, false);
+        scan(c, WORK, 0, true, false);
+        scan(c, RESET, 0, false, false);
     }
 
     private static void reset() {
         ForcedChart c = chart(1, 0);
-        scan(c, 0, 5, false, false);
-        scan(c, 1, 5, false, false);
-        scan(c, 0, 5, false, false);
-        scan(c, 2, 5, false, false);
+        scan(c, STAY, 5, false, false);
+        scan(c, WORK, 5, false, false);
+        scan(c, STAY, 5, false, false);
+        scan(c, RESET, 5, false, false);
         Check.due("a resetting action is not stored", c.stored(1), false);
     }
 
     private static void set() {
-        ForcedChart c = new ForcedChart();
-        c.step(0, true);
-        c.step(0, false);
-        c.step(0, false);
-        for (int i = 0; i < 3; i++) {
-            c.expression(0, i, 0);
-        }
-        c.transition(1, 2, 0);
-        c.transition(2, 1, 1);
-        c.transition(1, 4, 2);
-        c.transition(4, 1, 1);
-        c.action(1, 2, 4, 0);
-        c.action(2, 1, 4, 0);
-        c.start(false);
-        scan(c, 0, 5, false, false);
-        scan(c, 1, 5, true, true);
-        scan(c, 2, 5, true, true);
-        Check.due("the step is not active", c.active(), 1);
-        scan(c, 0, 500, true, true);
-        scan(c, 4, 5, false, false);
-        scan(c, 2, 5, false, false);
-        scan(c, 1, 5, true, true);
+        ForcedChart c = chart(2, DURATION);
+        scan(c, STAY, 5, false, false);
+        scan(c, WORK, 5, true, true);
+        scan(c, REST, 5, true, true);
+        scan(c, STAY, 500, true, true);
+        scan(c, RESET, 5, false, false);
+        scan(c, REST, 5, false, false);
+        scan(c, WORK, 5, true, true);
+        scan(c, RESET, 5, false, false);
     }
 
     private static void limited() {
         ForcedChart c = chart(3, DURATION);
-        scan(c, 0, 5, false, false);
-        scan(c, 1, 5, true, false);
-        scan(c, 0, 9, true, false);
-        scan(c, 0, 1, false, false);
-        scan(c, 0, 1, false, false);
-        scan(c, 2, 0, false, false);
-        scan(c, 4, 0, false, false);
-        scan(c, 1, 0, true, false);
+        scan(c, STAY, 5, false, false);
+        scan(c, WORK, 50, true, false);
+        scan(c, STAY, 9, true, false);
+        scan(c, STAY, 1, false, false);
+        scan(c, STAY, 1, false, false);
+        scan(c, REST, 0, false, false);
+        scan(c, WORK, 0, true, false);
+        scan(c, REST, 0, false, false);
     }
 
     private static void delayed() {
         ForcedChart c = chart(4, DURATION);
-        scan(c, 0, 50, false, false);
-        scan(c, 1, 50, false, false);
-        scan(c, 0, 9, false, false);
-        scan(c, 0, 1, true, false);
-        scan(c, 0, 1, true, false);
-        scan(c, 2, 0, false, false);
+        scan(c, STAY, 50, false, false);
+        scan(c, WORK, 50, false, false);
+        scan(c, STAY, 9, false, false);
+        scan(c, STAY, 1, true, false);
+        scan(c, STAY, 1, true, false);
+        scan(c, REST, 0, false, false);
     }
 
     private static void atBegin() {
         ForcedChart c = chart(5, DURATION);
-        scan(c, 0, 5, false, false);
-        scan(c, 1, 5, true, false);
-        scan(c, 0, 0, false, false);
-        scan(c, 2, 0, false, false);
-        scan(c, 4, 0, false, false);
-        scan(c, 1, 0, true, false);
+        scan(c, STAY, 5, false, false);
+        scan(c, WORK, 5, true, false);
+        scan(c, STAY, 0, false, false);
+        scan(c, REST, 0, false, false);
+        scan(c, WORK, 0, true, false);
 
         ForcedChart d = new ForcedChart();
         d.step(0, true);
         d.action(0, 5, 4, 0);
-        d.action(0, 6, 3, 0);
         d.start(true);
-        scan(d, 0, 5, true, false);
-        scan(d, 0, 5, false, false);
+        scan(d, STAY, 5, true, false);
+        scan(d, STAY, 5, false, false);
         d.stop();
         d.start(true);
-        scan(d, 0, 5, true, false);
+        scan(d, STAY, 5, true, false);
     }
 
     private static void atEnd() {
-        ForcedChart c = new ForcedChart();
-        c.step(0, true);
-        c.step(0, false);
-        c.expression(0, 0, 0);
-        c.expression(0, 1, 0);
-        c.transition(1, 2, 0);
-        c.transition(2, 1, 1);
-        c.action(1, 6, 4, DURATION);
-        c.action(0, 6, 3, DURATION);
+        ForcedChart c = chart(6, DURATION);
+        scan(c, STAY, 5, false, false);
+        scan(c, WORK, 5, false, false);
+        scan(c, STAY, 5, false, false);
+        scan(c, REST, 0, true, false);
+        scan(c, STAY, 0, false, false);
+        scan(c, WORK, 5, false, false);
+        scan(c, RESET, 0, false, false);
+        c.stop();
+        c.action(0, 6, 3, 0);
         c.start(false);
-        c.scan(1, 0);
+        c.scan(WORK, 0);
         Check.due("left in the first scan, but was not active at the end of one before", c.outputs(), 0);
-        c.scan(0, 0);
-        Check.due("still active", c.outputs(), 0);
-        c.scan(2, 0);
-        Check.due("left", c.outputs(), 16);
-        c.scan(0, 0);
-        Check.due("left before", c.outputs(), 0);
-        c.scan(1, 0);
-        Check.due("the other left", c.outputs(), 8);
+        c.scan(REST, 0);
+        c.scan(WORK, 0);
+        Check.due("left in a later one", c.outputs(), 8);
     }
 
     private static void setThenDelayed() {
-        ForcedChart c = new ForcedChart();
-        c.step(0, true);
-        c.step(0, false);
-        c.step(0, false);
-        c.expression(0, 0, 0);
-        c.expression(0, 1, 0);
-        c.transition(1, 2, 0);
-        c.transition(2, 1, 1);
-        c.transition(1, 4, 1);
-        c.action(1, 7, 4, DURATION);
-        c.action(2, 1, 4, 0);
-        c.start(false);
-        scan(c, 0, 50, false, false);
-        scan(c, 1, 50, false, true);
-        scan(c, 2, 4, false, true);
-        scan(c, 1, 5, false, true);
-        scan(c, 0, 1, true, true);
-        scan(c, 2, 1, true, true);
-        scan(c, 2, 1, false, false);
+        ForcedChart c = chart(7, DURATION);
+        scan(c, STAY, 50, false, false);
+        scan(c, WORK, 50, false, true);
+        scan(c, REST, 4, false, true);
+        scan(c, WORK, 5, false, true);
+        scan(c, STAY, 1, true, true);
+        scan(c, REST, 1, true, true);
+        scan(c, RESET, 1, false, false);
+        scan(c, WORK, 1, false, true);
+        scan(c, REST, 9, false, true);
+        scan(c, STAY, 1, true, true);
     }
 
     private static void delayedThenSet() {
-        ForcedChart c = new ForcedChart();
-        c.step(0, true);
-        c.step(0, false);
-        c.step(0, false);
-        c.expression(0, 0, 0);
-        c.expression(0, 1, 0);
-        c.transition(1, 2, 0);
-        c.transition(2, 1, 1);
-        c.transition(1, 4, 1);
-        c.action(1, 8, 4, DURATION);
-        c.action(2, 1, 4, 0);
-        c.start(false);
-        scan(c, 0, 50, false, false);
-        scan(c, 1, 50, false, false);
-        scan(c, 0, 9, false, false);
-        scan(c, 2, 9, false, false);
-        scan(c, 1, 9, false, false);
-        scan(c, 0, 9, false, false);
-        scan(c, 0, 1, true, true);
-        scan(c, 2, 1, true, true);
-        scan(c, 0, 1, true, true);
-        scan(c, 2, 1, false, false);
+        ForcedChart c = chart(8, DURATION);
+        scan(c, STAY, 50, false, false);
+        scan(c, WORK, 50, false, false);
+        scan(c, STAY, 9, false, false);
+        scan(c, REST, 9, false, false);
+        scan(c, WORK, 9, false, false);
+        scan(c, STAY, 9, false, false);
+        scan(c, STAY, 1, true, true);
+        scan(c, REST, 1, true, true);
+        scan(c, STAY, 1, true, true);
+        scan(c, RESET, 1, false, false);
+        scan(c, WORK, 1, false, false);
     }
 
     private static void setThenLimited() {
-        ForcedChart c = new ForcedChart();
-        c.step(0, true);
-        c.step(0, false);
-        c.step(0, false);
-        c.expression(0, 0, 0);
-        c.expression(0, 1, 0);
-        c.transition(1, 2, 0);
-        c.transition(2, 1, 1);
-        c.transition(1, 4, 1);
-        c.transition(4, 1, 0);
-        c.action(1, 9, 4, DURATION);
-        c.action(2, 1, 4, 0);
-        c.start(false);
-        scan(c, 0, 50, false, false);
-        scan(c, 1, 50, true, true);
-        scan(c, 2, 5, true, true);
-        scan(c, 0, 4, true, true);
-        scan(c, 0, 1, false, true);
-        scan(c, 1, 1, false, true);
-        scan(c, 2, 1, false, true);
-        scan(c, 2, 1, false, false);
-        scan(c, 1, 1, false, false);
-        scan(c, 1, 1, true, true);
-        scan(c, 0, 9, true, true);
-        scan(c, 0, 1, false, true);
+        ForcedChart c = chart(9, DURATION);
+        scan(c, STAY, 50, false, false);
+        scan(c, WORK, 50, true, true);
+        scan(c, REST, 5, true, true);
+        scan(c, STAY, 4, true, true);
+        scan(c, STAY, 1, false, true);
+        scan(c, WORK, 1, false, true);
+        scan(c, REST, 1, false, true);
+        scan(c, RESET, 1, false, false);
+        scan(c, REST, 1, false, false);
+        scan(c, WORK, 1, true, true);
+        scan(c, STAY, 9, true, true);
+        scan(c, STAY, 1, false, true);
     }
 
     private static void durationOfNothing() {
@@ -280,14 +238,35 @@ public final class ActionTest {
             c.action(0, qualifier, 4, 0);
             c.action(0, 1, 4, 0);
             c.start(false);
-            scan(c, 0, 1, false, false);
-            scan(c, 0, 1, false, false);
+            scan(c, STAY, 1, false, false);
+            scan(c, STAY, 1, false, false);
+        }
+    }
+
+    private static void manyAtOnce() {
+        ForcedChart c = new ForcedChart();
+        c.step(0, true);
+        c.step(0, false);
+        c.expression(0, 0, 0);
+        c.transition(1, 2, 0);
+        for (int variable = 0; variable < 4; variable++) {
+            c.action(1, 1, variable, 0);
+            c.action(0, 2, variable, 0);
+        }
+        c.action(0, 2, 7, 0);
+        c.start(false);
+        c.scan(0, 0);
+        Check.due("all are stored", c.outputs(), 15 | 128);
+        c.scan(1, 0);
+        Check.due("all but one are reset", c.outputs(), 128);
+        for (int action = 0; action < 9; action++) {
+            Check.due("stored(" + action + ")", c.stored(action), action == 8);
         }
     }
 
     private static void storedNumbers() {
         ForcedChart c = chart(2, 0);
-        c.scan(1, 0);
+        c.scan(WORK, 0);
         Check.due("stored(0)", c.stored(0), true);
         Check.due("stored(1)", c.stored(1), false);
         Check.due("stored(2)", c.stored(2), false);
@@ -301,8 +280,8 @@ public final class ActionTest {
     private static void outputsLast() {
         ForcedChart c = chart(0, 0);
         Check.due("outputs before a scan", c.outputs(), 0);
-        c.scan(1, 0);
-        Check.due("refused", c.scan(2, -1), ForcedChart.REFUSED);
+        c.scan(WORK, 0);
+        Check.due("refused", c.scan(REST, -1), ForcedChart.REFUSED);
         Check.due("outputs after what is refused", c.outputs(), 16);
         c.stop();
         Check.due("outputs after stop", c.outputs(), 0);

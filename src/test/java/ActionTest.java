@@ -30,6 +30,7 @@ public final class ActionTest {
         agesGrowInEveryScan();
         resetIsStrongerThanStoring();
         resetOfAnotherVariable();
+        manyResetsAtOnce();
         oneResetOfMany();
         variableOfMany();
         resetStepOnTheWay();
@@ -382,6 +383,26 @@ public final class ActionTest {
             for (int i = 0; i < 8; i++) {
                 Check.due("stored(" + i + ")", c.stored(i), i != variable);
             }
+        }
+    }
+
+    private static void manyResetsAtOnce() {
+        Check.about("Terms: r be whether an action of the same variable with qualifier 1 has an active step");
+        ForcedChart c = new ForcedChart();
+        Charts.steps(c, 0, 2, 1);
+        c.transition(1, 2, c.expression(0, 0, 0));
+        for (int variable = 0; variable < 4; variable++) {
+            c.action(1, 1, variable, 0);
+            c.action(0, 2, variable, 0);
+        }
+        c.action(0, 2, 7, 0);
+        c.start(false);
+        c.scan(0, 0);
+        Check.due("all are stored", c.outputs(), 15 | 128);
+        c.scan(1, 0);
+        Check.due("all but one are reset", c.outputs(), 128);
+        for (int action = 0; action < 9; action++) {
+            Check.due("stored(" + action + ")", c.stored(action), action == 8);
         }
     }
 

@@ -78,6 +78,15 @@ public final class RefusalTest {
         add("time(1)", c -> c.time(1));
     }
 
+    /** Expression 0 is that input 0 is on; expression n up to 4 has the depth n. */
+    private void expressionsUpToDepth4() {
+        expression(0, 0, 0);
+        expression(5, 0, 0);
+        expression(6, 0, 1);
+        expression(7, 2, 0);
+        expression(5, 3, 0);
+    }
+
     /** A chart that is never full, built further after its first runs. */
     private static RefusalTest roomyRun() {
         RefusalTest r = new RefusalTest();
@@ -88,17 +97,16 @@ public final class RefusalTest {
         r.step(1, true);
         r.step(1, false);
         r.step(2, false);
-        r.expression(0, 0, 0);
+        r.expressionsUpToDepth4();
         r.expression(1, 1, 0);
         r.expression(2, 1, 0);
         r.expression(4, 1, 5);
-        r.expression(5, 0, 0);
-        r.expression(6, 3, 4);
-        r.expression(7, 1, 2);
-        r.transition(2, 4, 1);
-        r.transition(4, 2, 2);
-        r.transition(2, 1, 5);
-        r.transition(1, 2, 6);
+        r.expression(6, 7, 1);
+        r.expression(7, 5, 6);
+        r.transition(2, 4, 5);
+        r.transition(4, 2, 6);
+        r.transition(2, 1, 8);
+        r.transition(1, 2, 9);
         r.transition(8, 16, 0);
         r.transition(16, 8, 0);
         r.order(2, 1, 16);
@@ -140,17 +148,17 @@ public final class RefusalTest {
         for (int step = 2; step < 8; step++) {
             r.step(step / 3, step % 2 == 0);
         }
-        for (int i = 0; i < 8; i++) {
-            r.expression(i % 3, i, 0);
-            r.expression(5, 2 * i, 0);
+        r.expressionsUpToDepth4();
+        for (int i = 5; i < 17; i++) {
+            r.expression(i % 3, i % 8, 0);
         }
-        for (int i = 16; i < 24; i++) {
-            r.expression(i % 2 == 0 ? 6 : 7, i - 16, i - 8);
+        for (int i = 17; i < 24; i++) {
+            r.expression(6 + i % 2, i - 12, i - 8);
         }
         int[][] ends = {{1, 2}, {2, 4}, {4, 1}, {1, 4}, {2 | 4, 1}, {8, 16}, {16, 32}, {32, 8}, {16, 8}, {64, 128},
             {128, 64}, {128, 64 | 128}};
         for (int i = 0; i < 12; i++) {
-            r.transition(ends[i][0], ends[i][1], i < 3 ? 0 : 2 * i);
+            r.transition(ends[i][0], ends[i][1], i < 3 ? 0 : 2 * i + 1);
         }
         r.order(0, 1, 8 | 32);
         r.order(2, 2, ForcedChart.FREEZE);
@@ -207,7 +215,8 @@ public final class RefusalTest {
     private static void addWrongExpressions(List<Call> calls) {
         int[][] wrong = {{-1, 0, 0}, {8, 0, 0}, {0, -1, 0}, {0, 8, 0}, {1, -1, 0}, {1, 8, 0}, {2, -1, 0}, {2, 8, 0},
             {3, -1, 0}, {3, 8, 0}, {4, -1, 0}, {4, 8, 0}, {4, 1, -1}, {4, 1, LONGEST + 1}, {5, -1, 0}, {5, 24, 0},
-            {6, -1, 0}, {6, 24, 0}, {6, 0, -1}, {6, 0, 24}, {7, -1, 0}, {7, 24, 0}, {7, 0, -1}, {7, 0, 24}};
+            {6, -1, 0}, {6, 24, 0}, {6, 0, -1}, {6, 0, 24}, {7, -1, 0}, {7, 24, 0}, {7, 0, -1}, {7, 0, 24},
+            {5, 4, 0}, {6, 4, 0}, {6, 0, 4}, {7, 4, 0}, {7, 0, 4}};
         for (int[] w : wrong) {
             calls.add(new Call("expression(" + w[0] + ", " + w[1] + ", " + w[2] + ")",
                     c -> c.expression(w[0], w[1], w[2])));

@@ -12,6 +12,7 @@ public final class RunTest {
         startSettlesOrNot();
         startLeavesNothingOfEarlierRuns();
         startLeavesNothingOfInputsAndSteps();
+        startLeavesNothingOfTimes();
         stopEndsAllThatRuns();
         stopEndsLeadAndPeriod();
         stopOfWhatDoesNotRun();
@@ -155,6 +156,23 @@ public final class RunTest {
         c.start(false);
         Check.due("input 2 rises again", c.scan(4, 0), 1);
         Check.due("step 0 was not active at the end of a scan before", c.outputs(), 0);
+    }
+
+    private static void startLeavesNothingOfTimes() {
+        Check.about("Promise 8: their times are 0, .. and nothing is left of earlier runs");
+        ForcedChart c = Charts.ring(3);
+        c.start(false);
+        c.scan(1, 5);
+        c.scan(0, 5);
+        Check.due("a time of the first run", c.time(1), 5);
+        c.stop();
+        c.start(true);
+        Check.due("time(0)", c.time(0), 0);
+        Check.due("time(1)", c.time(1), 0);
+        Check.due("step 1 becomes active", c.scan(1, 7), 1);
+        Check.due("with a time of 0", c.time(1), 0);
+        c.scan(0, 2);
+        Check.due("and has the time of this run", c.time(1), 2);
     }
 
     private static void stopEndsAllThatRuns() {

@@ -380,13 +380,30 @@ public final class SettleTest {
         Check.due("unstable", c.scan(1, 0), UNSTABLE);
         Check.due("lead if it has it from the scan before", c.lead(), 3);
         Check.due("period", c.period(), 3);
+        c.stop();
+        c.start(true);
+        Check.due("unstable", c.scan(1, 0), UNSTABLE);
+        Check.due("lead if all times are 0 again", c.lead(), 1);
 
-        ForcedChart d = Charts.ring(2);
-        Charts.steps(d, 1, 1, 1);
+        // Input 3 lets step 3 go; in the unstable scan without it, step 3 stays and would have a time.
+        ForcedChart d = Charts.ring(3);
+        Charts.steps(d, 1, 2, 1);
+        d.transition(8, 16, d.expression(6, d.expression(3, 2, 0), d.expression(0, 3, 0)));
+        d.transition(16, 8, 0);
         d.start(true);
-        Check.due("unstable", d.scan(3, 5), UNSTABLE);
-        Check.due("lead if a time stays above 0 for ever", d.lead(), 1);
-        Check.due("period", d.period(), 2);
+        Check.due("unstable", d.scan(7 | 8, 5), UNSTABLE);
+        Check.due("lead if time passes", d.lead(), 3);
+        Check.due("unstable", d.scan(7, 5), UNSTABLE);
+        Check.due("lead if step 3 stays", d.lead(), 1);
+        Check.due("unstable", d.scan(7 | 8, 0), UNSTABLE);
+        Check.due("lead if no time passes, nor did in unstable scans", d.lead(), 1);
+
+        ForcedChart e = Charts.ring(2);
+        Charts.steps(e, 1, 1, 1);
+        e.start(true);
+        Check.due("unstable", e.scan(3, 5), UNSTABLE);
+        Check.due("lead if a time stays above 0 for ever", e.lead(), 1);
+        Check.due("period", e.period(), 2);
     }
 
     private static void periodIsTheLeast() {

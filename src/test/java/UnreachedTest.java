@@ -79,14 +79,14 @@ public final class UnreachedTest {
     private static void emptyAndFreeze() {
         Check.about("Promise 7: the steps in the fixed set of an order; Terms: (it may be empty), or FREEZE instead");
         ForcedChart c = new ForcedChart();
-        Charts.steps(c, 0, 1, 1);
+        Charts.steps(c, 0, 2, 2);
         Charts.steps(c, 1, 2, 0);
-        Charts.steps(c, 2, 5, 0);
-        c.order(0, 1, ForcedChart.FREEZE);
-        c.order(0, 2, ForcedChart.FREEZE);
-        Check.due("FREEZE reaches nothing", c.unreached(), 254);
-        c.order(0, 1, 0);
-        Check.due("the empty set reaches nothing", c.unreached(), 254);
+        Charts.steps(c, 2, 4, 0);
+        c.order(1, 1, ForcedChart.FREEZE);
+        c.order(1, 2, ForcedChart.FREEZE);
+        Check.due("FREEZE reaches nothing", c.unreached(), 255 - 2);
+        c.order(1, 1, 0);
+        Check.due("the empty set reaches nothing", c.unreached(), 255 - 2);
     }
 
     private static void ordersAndTransitionsByTurns() {

@@ -622,8 +622,10 @@ public final class ForcedChart {
     /** A scan at work: it has a copy of all that it changes, since an unstable one must leave no trace. */
     private static final class Trial {
         /**
-         * In evolutions a time either stays or becomes 0, so the set of the times above 0 only shrinks: with 8 - k of
-         * them there are at most 2 to the power of k situations, 1 + 2 + .. + 256 in all.
+         * No scan makes more different states. Time is added once, before the evolutions; in these a time stays while
+         * its step stays active, and is 0 once the step was away. So the set of the times above 0 only shrinks, and
+         * while 8 - k of them are left, only the other k steps may be active or not: 2 to the power of k situations at
+         * most, and 1 + 2 + .. + 256 over all k.
          */
         private static final int MOST_STATES = 511;
 

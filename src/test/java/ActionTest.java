@@ -350,7 +350,8 @@ public final class ActionTest {
     }
 
     private static void resetIsStrongerThanStoring() {
-        Check.about("Terms: if r, it is stored no more; A variable is on if an action of it is on and r is false");
+        Check.about("Terms: if r, it is stored no more; A variable is on if an action of it is on and r .. is "
+                + "false");
         for (int qualifier = 0; qualifier <= 9; qualifier++) {
             for (int first = 0; first < 2; first++) {
                 ForcedChart c = new ForcedChart();
@@ -465,7 +466,7 @@ public final class ActionTest {
     /** A step that ends and begins in one settling scan. */
     private static void endsOfScansCount() {
         Check.about("Terms: At 4. let x be whether the step is active then, w whether it was active at the end of the "
-                + "scan before, e its time");
+                + "scan before .., e its time");
         ForcedChart c = Charts.withTrue();
         Charts.steps(c, 0, 2, 1);
         c.transition(1, 2, c.expression(1, 0, 0));
@@ -537,7 +538,7 @@ public final class ActionTest {
     }
 
     private static void allVariablesAndActions() {
-        Check.about("Promise 15: Whether an action is stored; Terms: ACTIONS (at most 12)");
+        Check.about("Promise 15: Whether an action is stored; Terms: ACTIONS 0, 1, .. (at most 12)");
         ForcedChart c = new ForcedChart();
         Charts.steps(c, 2, 2, 1);
         c.transition(1, 2, c.expression(0, 0, 0));

@@ -127,7 +127,7 @@ public final class BuildTest {
     }
 
     private static void atMostEightSteps() {
-        Check.about("Promise 2: 8 steps are there; Terms: STEPS (at most 8)");
+        Check.about("Promise 2: 8 steps are there; Terms: STEPS 0, 1, .. (at most 8)");
         for (int part = 0; part < 3; part++) {
             ForcedChart c = new ForcedChart();
             for (int i = 0; i < 7; i++) {
@@ -238,7 +238,7 @@ public final class BuildTest {
     }
 
     private static void depthOfNot() {
-        Check.about("Promise 3: kind depth would be more than 4; Terms: kind 5 has the depth of a + 1");
+        Check.about("Promise 3: its depth would be more than 4; Terms: kind 5 has the depth of a + 1");
         ForcedChart c = new ForcedChart();
         c.step(0, false);
         for (int kind = 0; kind <= 4; kind++) {
@@ -279,7 +279,7 @@ public final class BuildTest {
     }
 
     private static void atMost24Expressions() {
-        Check.about("Promise 3: 24 are there; Terms: EXPRESSIONS (at most 24)");
+        Check.about("Promise 3: 24 are there; Terms: EXPRESSIONS 0, 1, .. (at most 24)");
         ForcedChart c = new ForcedChart();
         Charts.steps(c, 0, 2, 1);
         for (int i = 0; i < 23; i++) {
@@ -366,7 +366,7 @@ public final class BuildTest {
     }
 
     private static void atMost12Transitions() {
-        Check.about("Promise 4: 12 are there; Terms: TRANSITIONS (at most 12)");
+        Check.about("Promise 4: 12 are there; Terms: TRANSITIONS 0, 1, .. (at most 12)");
         ForcedChart c = Charts.withTrue();
         Charts.steps(c, 0, 2, 1);
         for (int i = 0; i < 11; i++) {
@@ -434,7 +434,7 @@ public final class BuildTest {
     }
 
     private static void atMost4Orders() {
-        Check.about("Promise 5: 4 are there; Terms: ORDERS (at most 4)");
+        Check.about("Promise 5: 4 are there; Terms: ORDERS 0, 1, .. (at most 4)");
         ForcedChart c = new ForcedChart();
         c.step(0, true);
         c.step(0, false);
@@ -504,7 +504,7 @@ public final class BuildTest {
     }
 
     private static void atMost12Actions() {
-        Check.about("Promise 6: 12 are there; Terms: ACTIONS (at most 12)");
+        Check.about("Promise 6: 12 are there; Terms: ACTIONS 0, 1, .. (at most 12)");
         ForcedChart c = new ForcedChart();
         c.step(0, true);
         for (int i = 0; i < 11; i++) {

@@ -6,7 +6,7 @@ import java.util.Arrays;
 import java.util.Set;
 import java.util.TreeSet;
 
-/** The public face is the document's and nothing more (LANGUAGE.md, rules 1 and 5). */
+/** The public face is the document's and nothing more (LANGUAGE.md, rules 1, 2 and 5). */
 public final class FaceTest {
     private static final String[] FACE = {
         "int REFUSED", "int UNSTABLE", "int FREEZE", "ForcedChart()",
@@ -17,6 +17,7 @@ public final class FaceTest {
         "int lead()", "int period()"};
 
     public static void main(String[] args) {
+        Check.about("The public face; LANGUAGE.md, rules 1, 2 and 5");
         Check.due("REFUSED", ForcedChart.REFUSED, -2);
         Check.due("UNSTABLE", ForcedChart.UNSTABLE, -1);
         Check.due("FREEZE", ForcedChart.FREEZE, -1);

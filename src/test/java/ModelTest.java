@@ -26,6 +26,7 @@ public final class ModelTest {
     }
 
     public static void main(String[] args) {
+        Check.about("the document, as the model follows it");
         int[] seen = new int[3];
         for (int seed = 0; seed < RUNS; seed++) {
             new ModelTest(seed).compare(seen);

@@ -8,6 +8,7 @@ public final class SettleTest {
         edgesForTheFirstEvolutionOnly();
         firstEvolutionMayBeTheOneThatIsNotMade();
         newStepsHaveNoTime();
+        timeIsAddedOnce();
         loopWithoutChange();
         restAfterMany();
 
@@ -126,6 +127,26 @@ public final class SettleTest {
         Check.due("once round, and its time is 0", d.scan(0, 1000000), 2);
         Check.due("active", d.active(), 1);
         Check.due("time(0)", d.time(0), 0);
+    }
+
+    /** Step 0 goes its way in part 0; step 4 stays, or goes on as soon as its time is 6. */
+    private static void timeIsAddedOnce() {
+        Check.about("Terms: 1. The time dt is added to the time of every active step");
+        ForcedChart c = Charts.withTrue();
+        Charts.steps(c, 0, 4, 1);
+        Charts.steps(c, 1, 2, 1);
+        for (int i = 0; i < 3; i++) {
+            c.transition(1 << i, 2 << i, Charts.INPUT_0);
+        }
+        c.transition(8, 1, c.expression(5, Charts.INPUT_0, 0));
+        c.transition(16, 32, c.expression(4, 4, 6));
+        c.start(true);
+        Check.due("three evolutions", c.scan(1, 5), 3);
+        Check.due("time of a step that stayed in all of them", c.time(4), 5);
+        Check.due("time of the last one's step", c.time(3), 0);
+        Check.due("active", c.active(), 8 | 16);
+        Check.due("time is added before the first evolution", c.scan(0, 1), 1);
+        Check.due("active", c.active(), 1 | 32);
     }
 
     private static void loopWithoutChange() {

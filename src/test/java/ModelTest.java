@@ -10,6 +10,8 @@ import java.util.TreeSet;
  */
 public final class ModelTest {
     private static final int RUNS = 3000;
+    private static final int VARIATIONS = 100;
+    private static final int MANY = 255;
     private static final int CALLS = 512;
     private static final int LEAST_BUILDING = 30;
     private static final int MOST_BUILDING = 120;
@@ -27,14 +29,19 @@ public final class ModelTest {
 
     public static void main(String[] args) {
         Check.about("the document, as the model follows it");
-        int[] seen = new int[3];
+        int[] seen = new int[4];
         for (int seed = 0; seed < RUNS; seed++) {
             new ModelTest(seed).compare(seen);
+        }
+        for (int seed = 0; seed < VARIATIONS; seed++) {
+            Charts.Rows rows = seed % 2 == 0 ? Charts.UNSTABLE_AFTER_MANY : Charts.AT_REST_AFTER_MANY;
+            new ModelTest(RUNS + seed).compareVariation(rows, seen);
         }
         // A generator that no longer comes to these would test nothing of them.
         Check.due("enough unstable scans", seen[0] > RUNS / 4, true);
         Check.due("enough leads above 1", seen[1] > RUNS / 20, true);
-        Check.due("enough scans of many evolutions", seen[2] > RUNS / 60, true);
+        Check.due("enough scans of several evolutions", seen[2] > RUNS / 60, true);
+        Check.due("enough scans of very many evolutions", seen[3] > VARIATIONS / 4, true);
         Check.end();
     }
 
@@ -62,6 +69,44 @@ public final class ModelTest {
             look();
         }
         lookAtAll();
+    }
+
+    /** The model has no limit to the evolutions of a scan, so this is where a limit of the program would show. */
+    private void compareVariation(Charts.Rows rows, int[] seen) {
+        for (int step = 0; step < 8; step++) {
+            addStep(0, (maybeFlipped(rows.initial()) >> step & 1) != 0);
+        }
+        for (int[] e : rows.expressions()) {
+            addExpression(e[0], e[1], e[2]);
+        }
+        for (int[] t : rows.transitions()) {
+            addTransition(maybeFlipped(t[0]), maybeFlipped(t[1]), t[2]);
+        }
+        due("start(true)", chart.start(true), model.start(true));
+        for (int i = 0; i < 4; i++) {
+            scan(seen);
+            look();
+        }
+        lookAtAll();
+    }
+
+    /** The set, once in a while with one step more or less. */
+    private int maybeFlipped(int set) {
+        return random.nextInt(40) == 0 ? set ^ 1 << random.nextInt(8) : set;
+    }
+
+    private void addStep(int part, boolean initial) {
+        due("step(" + part + ", " + initial + ")", chart.step(part, initial), model.step(part, initial));
+    }
+
+    private void addExpression(int kind, int a, int b) {
+        due("expression(" + kind + ", " + a + ", " + b + ")", chart.expression(kind, a, b),
+                model.expression(kind, a, b));
+    }
+
+    private void addTransition(int from, int to, int expression) {
+        due("transition(" + from + ", " + to + ", " + expression + ")", chart.transition(from, to, expression),
+                model.transition(from, to, expression));
     }
 
     private void due(String call, long got, long want) {
@@ -103,20 +148,15 @@ public final class ModelTest {
         if (pick < 2) {
             int part = lean != 1 ? around(1) : around(3);
             boolean initial = random.nextInt(3) == 0;
-            due("step(" + part + ", " + initial + ")", chart.step(part, initial), model.step(part, initial));
+            addStep(part, initial);
         } else if (pick < 5) {
             int kind = around(8);
             int a = kind < 3 ? around(3) : around(kind < 5 ? steps : model.expressions.size());
             int b = kind < 5 ? span() : around(model.expressions.size());
-            due("expression(" + kind + ", " + a + ", " + b + ")", chart.expression(kind, a, b),
-                    model.expression(kind, a, b));
+            addExpression(kind, a, b);
         } else if (pick < 8) {
             int part = lean != 1 ? 0 : random.nextInt(3);
-            int from = setOf(part, lean);
-            int to = setOf(part, lean);
-            int expression = around(model.expressions.size());
-            due("transition(" + from + ", " + to + ", " + expression + ")", chart.transition(from, to, expression),
-                    model.transition(from, to, expression));
+            addTransition(setOf(part, lean), setOf(part, lean), around(model.expressions.size()));
         } else if (pick < 9) {
             int step = around(steps);
             int part = random.nextInt(4);
@@ -142,6 +182,7 @@ public final class ModelTest {
         seen[0] += answer == ForcedChart.UNSTABLE ? 1 : 0;
         seen[1] += answer == ForcedChart.UNSTABLE && model.lead > 1 ? 1 : 0;
         seen[2] += answer > 2 ? 1 : 0;
+        seen[3] += Math.max(answer, model.lead + model.period - 1) > MANY ? 1 : 0;
     }
 
     private void look() {

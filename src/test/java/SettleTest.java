@@ -11,6 +11,7 @@ public final class SettleTest {
         timeIsAddedOnce();
         loopWithoutChange();
         restAfterMany();
+        restAfterManyMore();
 
         unstableAsFirstScan();
         unstableChangesNoTimeAndNoSituation();
@@ -26,6 +27,7 @@ public final class SettleTest {
         periodIsTheLeast();
         periodOfMany();
         leadOfMany();
+        leadAndPeriodOfMany();
         ordersBringRest();
         ordersBringNone();
         Check.end();
@@ -199,6 +201,21 @@ public final class SettleTest {
             Check.due("period", c.period(), 0);
             Check.due("at rest", c.scan(0, dt), 0);
         }
+    }
+
+    private static void restAfterManyMore() {
+        Check.about("Terms: until the next one would be idle; If there is no end to them, the scan is UNSTABLE");
+        ForcedChart c = Charts.AT_REST_AFTER_MANY.chart();
+        c.start(true);
+        Check.due("the times above 0 end one after the other", c.scan(0, 1), 464);
+        Check.due("active", c.active(), 127);
+        Check.due("evolutions", c.evolutions(), 464);
+        Check.due("lead", c.lead(), 0);
+        Check.due("at rest", c.scan(0, 0), 0);
+        c.stop();
+        c.start(true);
+        Check.due("no time is above 0", c.scan(0, 0), 134);
+        Check.due("active", c.active(), 127);
     }
 
     private static void unstableAsFirstScan() {
@@ -472,6 +489,20 @@ public final class SettleTest {
         Check.due("lead if step 7 has a time from 129 to 255", c.lead(), 121);
         Check.due("period", c.period(), 241);
         Check.due("active", c.active(), 129);
+        Check.due("time", c.time(7), 0);
+    }
+
+    private static void leadAndPeriodOfMany() {
+        Check.about("Promises 18 and 19: the situation and the times of all steps");
+        ForcedChart c = Charts.UNSTABLE_AFTER_MANY.chart();
+        c.start(true);
+        Check.due("unstable", c.scan(0, 0), UNSTABLE);
+        Check.due("lead if all times are 0", c.lead(), 1);
+        Check.due("period", c.period(), 238);
+        Check.due("unstable", c.scan(0, 1), UNSTABLE);
+        Check.due("lead if the times above 0 end one after the other", c.lead(), 232);
+        Check.due("period", c.period(), 238);
+        Check.due("active", c.active(), 248);
         Check.due("time", c.time(7), 0);
     }
 

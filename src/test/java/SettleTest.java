@@ -27,7 +27,6 @@ public final class SettleTest {
         periodIsTheLeast();
         periodOfMany();
         leadOfMany();
-        leadAndPeriodOfMany();
         ordersBringRest();
         ordersBringNone();
         Check.end();
@@ -479,30 +478,23 @@ public final class SettleTest {
     }
 
     private static void leadOfMany() {
-        Check.about("Promise 18: the least i >= 1");
-        ForcedChart c = counter(129, true);
-        c.start(true);
-        Check.due("unstable", c.scan(0, 0), UNSTABLE);
-        Check.due("lead if all times are 0", c.lead(), 1);
-        Check.due("period", c.period(), 241);
-        Check.due("unstable", c.scan(0, 1), UNSTABLE);
-        Check.due("lead if step 7 has a time from 129 to 255", c.lead(), 121);
-        Check.due("period", c.period(), 241);
-        Check.due("active", c.active(), 129);
-        Check.due("time", c.time(7), 0);
+        Check.about("Promise 18: the least i >= 1 such that the situation and the times of all steps are ..; "
+                + "Promise 19: the least n >= 1");
+        checkMany(counter(129, true), 121, 241);
+        checkMany(Charts.UNSTABLE_AFTER_MANY.chart(), 232, 238);
     }
 
-    private static void leadAndPeriodOfMany() {
-        Check.about("Promises 18 and 19: the situation and the times of all steps");
-        ForcedChart c = Charts.UNSTABLE_AFTER_MANY.chart();
+    /** The lead is that of a scan in which the initial steps have a time; without one it is 1. */
+    private static void checkMany(ForcedChart c, int lead, int period) {
         c.start(true);
+        int initial = c.active();
         Check.due("unstable", c.scan(0, 0), UNSTABLE);
         Check.due("lead if all times are 0", c.lead(), 1);
-        Check.due("period", c.period(), 238);
+        Check.due("period", c.period(), period);
         Check.due("unstable", c.scan(0, 1), UNSTABLE);
-        Check.due("lead if the times above 0 end one after the other", c.lead(), 232);
-        Check.due("period", c.period(), 238);
-        Check.due("active", c.active(), 248);
+        Check.due("lead if times are above 0 for many evolutions", c.lead(), lead);
+        Check.due("period", c.period(), period);
+        Check.due("active", c.active(), initial);
         Check.due("time", c.time(7), 0);
     }
 
